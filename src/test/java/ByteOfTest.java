@@ -11,7 +11,7 @@ public final class ByteOfTest {
 
     /** Bytes of all values, across several journal blocks and in the snapshot alike. */
     private static void tellsEachByte() {
-        BlockDesk desk = new BlockDesk(32);
+        Desk desk = new Desk(32);
         Due.snapshot(desk, 1, 1, 1);
         putCounting(desk, 1200, 5);
         Due.is("snapshot()", desk.snapshot(), 1);
@@ -24,7 +24,7 @@ public final class ByteOfTest {
         countingIs(desk, 1, 1504, 100);
     }
 
-    private static void putCounting(BlockDesk desk, int n, int first) {
+    private static void putCounting(Desk desk, int n, int first) {
         for (int i = 0; i < n; i += 8) {
             long v = 0;
             for (int j = 0; j < 8; j++) {
@@ -34,15 +34,16 @@ public final class ByteOfTest {
         }
     }
 
-    private static void countingIs(BlockDesk desk, int k, int n, int first) {
+    private static void countingIs(Desk desk, int k, int n, int first) {
+        int[] due = new int[n];
         for (int i = 0; i < n; i++) {
-            Due.is("byteOf(" + k + ", " + i + ")", desk.byteOf(k, i), (first + i) % 256);
+            due[i] = (first + i) % 256;
         }
-        Due.is("byteOf(" + k + ", " + n + ")", desk.byteOf(k, n), -1);
+        Due.bytes("counting", desk, k, due);
     }
 
     private static void tellsNoneBeyond() {
-        BlockDesk desk = new BlockDesk(4);
+        Desk desk = new Desk(4);
         Due.snapshot(desk, 255, 9, 1);
         Due.snapshot(desk, 255, 5, 1);
         Due.record(desk, 254, 5, 1);
@@ -64,7 +65,7 @@ public final class ByteOfTest {
     }
 
     private static void tellsNoneWhileDown() {
-        BlockDesk desk = new BlockDesk(4);
+        Desk desk = new Desk(4);
         Due.snapshot(desk, 255, 5, 1);
         Due.record(desk, 254, 5, 1);
         Due.is("cut()", desk.cut(), true);

@@ -10,7 +10,7 @@ public final class ChargeTest {
     }
 
     private static void countsAllBlocks() {
-        BlockDesk desk = new BlockDesk(8);
+        Desk desk = new Desk(8);
         Due.is("charge(6)", desk.charge(6), true);
         Due.record(desk, 1, 600, 1);
         Due.snapshot(desk, 2, 600, 1);
@@ -24,7 +24,7 @@ public final class ChargeTest {
     }
 
     private static void edges() {
-        BlockDesk desk = new BlockDesk(32);
+        Desk desk = new Desk(32);
         Due.is("charge(999)", desk.charge(999), true);
         int[] wrong = {-1, 1000, 1001, -999, Integer.MIN_VALUE, Integer.MAX_VALUE};
         for (int n : wrong) {
@@ -38,7 +38,7 @@ public final class ChargeTest {
         Due.snapshot(desk, 1, 8000, 2);
         Due.is("written", desk.state(5), 999);
 
-        BlockDesk none = new BlockDesk(4);
+        Desk none = new Desk(4);
         Due.is("charge(0)", none.charge(0), true);
         Due.is("charge(-1)", none.charge(-1), false);
         Due.is("charge(1000)", none.charge(1000), false);
@@ -47,7 +47,7 @@ public final class ChargeTest {
     }
 
     private static void theLastSaidHolds() {
-        BlockDesk desk = new BlockDesk(4);
+        Desk desk = new Desk(4);
         Due.is("charge(0)", desk.charge(0), true);
         Due.is("charge(2)", desk.charge(2), true);
         Due.record(desk, 1, 600, 1);
@@ -57,7 +57,7 @@ public final class ChargeTest {
     }
 
     private static void saidWhileDown() {
-        BlockDesk desk = new BlockDesk(4);
+        Desk desk = new Desk(4);
         Due.is("cut()", desk.cut(), true);
         Due.is("charge(1000) down", desk.charge(1000), false);
         Due.is("charge(-1) down", desk.charge(-1), false);
@@ -70,7 +70,7 @@ public final class ChargeTest {
     }
 
     private static void isGoneWithThePower() {
-        BlockDesk desk = new BlockDesk(32);
+        Desk desk = new Desk(32);
         Due.is("charge(3)", desk.charge(3), true);
         Due.snapshot(desk, 1, 8000, 2);
         Due.is("start()", desk.start(), 1);

@@ -8,7 +8,7 @@ public final class CutTest {
     }
 
     private static void goesDownWithWhatWasDone() {
-        BlockDesk desk = new BlockDesk(4);
+        Desk desk = new Desk(4);
         Due.snapshot(desk, 1, 7, 1);
         Due.record(desk, 2, 5, 1);
         Due.is("fill(3, 9)", desk.fill(3, 9), true);
@@ -23,7 +23,7 @@ public final class CutTest {
     }
 
     private static void takesTheChargeAway() {
-        BlockDesk desk = new BlockDesk(4);
+        Desk desk = new Desk(4);
         Due.is("charge(0)", desk.charge(0), true);
         Due.is("cut()", desk.cut(), true);
         Due.is("start()", desk.start(), 1);
@@ -31,7 +31,7 @@ public final class CutTest {
     }
 
     private static void writesNothing() {
-        BlockDesk desk = new BlockDesk(4);
+        Desk desk = new Desk(4);
         Due.is("cut()", desk.cut(), true);
         Due.is("written", desk.state(5), 0);
         Due.is("charge(0)", desk.charge(0), true);

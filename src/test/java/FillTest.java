@@ -10,7 +10,7 @@ public final class FillTest {
     }
 
     private static void takesTheLowestEightBits() {
-        BlockDesk desk = new BlockDesk(4);
+        Desk desk = new Desk(4);
         int[] values = {0, 1, 127, 128, 255, 256, 0x1234, -1, -128, -256, Integer.MIN_VALUE};
         int[] due = {0, 1, 127, 128, 255, 0, 0x34, 255, 128, 0, 0};
         for (int value : values) {
@@ -21,7 +21,7 @@ public final class FillTest {
     }
 
     private static void comesBehindWhatIsInHand() {
-        BlockDesk desk = new BlockDesk(4);
+        Desk desk = new Desk(4);
         Due.is("put(0x0908, 2)", desk.put(0x0908L, 2), true);
         Due.is("fill(1, 3)", desk.fill(1, 3), true);
         Due.is("fill(2, 1)", desk.fill(2, 1), true);
@@ -31,7 +31,7 @@ public final class FillTest {
     }
 
     private static void refusesOtherCounts() {
-        BlockDesk desk = new BlockDesk(4);
+        Desk desk = new Desk(4);
         Due.is("fill(5, 1)", desk.fill(5, 1), true);
         int[] wrong = {0, -1, -8000, 8001, 16000, Integer.MIN_VALUE, Integer.MAX_VALUE};
         for (int n : wrong) {
@@ -43,7 +43,7 @@ public final class FillTest {
     }
 
     private static void refusesMoreThan8000() {
-        BlockDesk desk = new BlockDesk(32);
+        Desk desk = new Desk(32);
         Due.is("fill(1, 8001) on none", desk.fill(1, 8001), false);
         Due.is("fill(1, 8000)", desk.fill(1, 8000), true);
         Due.is("fill(2, 1)", desk.fill(2, 1), false);
@@ -57,7 +57,7 @@ public final class FillTest {
     }
 
     private static void refusedWhileDown() {
-        BlockDesk desk = new BlockDesk(4);
+        Desk desk = new Desk(4);
         Due.is("cut()", desk.cut(), true);
         Due.is("fill(1, 1) down", desk.fill(1, 1), false);
         Due.is("start()", desk.start(), 1);

@@ -7,7 +7,7 @@ import java.util.TreeSet;
  * The document read word by word, place by place and block by block, with none of the short cuts
  * of BlockDesk, so that a slip in its arithmetic shows against this.
  */
-final class Model {
+final class Model implements Store {
     private final int n;
     private byte[] snapshot = new byte[0];
     private final List<byte[]> records = new ArrayList<>();
@@ -22,7 +22,8 @@ final class Model {
         n = 2 <= blocks && blocks <= 32 ? blocks : 32;
     }
 
-    boolean put(long v, int count) {
+    @Override
+    public boolean put(long v, int count) {
         if (!up || count < 1 || count > 8 || hand.size() + count > 8000) {
             return false;
         }
@@ -32,7 +33,8 @@ final class Model {
         return true;
     }
 
-    boolean fill(int v, int count) {
+    @Override
+    public boolean fill(int v, int count) {
         if (!up || count < 1 || count > 8000 || hand.size() + count > 8000) {
             return false;
         }
@@ -42,7 +44,8 @@ final class Model {
         return true;
     }
 
-    int record() {
+    @Override
+    public int record() {
         if (!up) {
             return 0;
         }
@@ -66,7 +69,8 @@ final class Model {
         return 1;
     }
 
-    int snapshot() {
+    @Override
+    public int snapshot() {
         if (!up) {
             return 0;
         }
@@ -88,7 +92,8 @@ final class Model {
         return 1;
     }
 
-    boolean cut() {
+    @Override
+    public boolean cut() {
         if (!up) {
             return false;
         }
@@ -96,7 +101,8 @@ final class Model {
         return true;
     }
 
-    int start() {
+    @Override
+    public int start() {
         if (up) {
             return 0;
         }
@@ -107,7 +113,8 @@ final class Model {
         return 1;
     }
 
-    boolean charge(int count) {
+    @Override
+    public boolean charge(int count) {
         if (count < 0 || count > 999) {
             return false;
         }
@@ -115,17 +122,20 @@ final class Model {
         return true;
     }
 
-    int size(int k) {
+    @Override
+    public int size(int k) {
         byte[] found = find(k);
         return found == null ? -1 : found.length;
     }
 
-    int byteOf(int k, int i) {
+    @Override
+    public int byteOf(int k, int i) {
         byte[] found = find(k);
         return found == null || i < 0 || i >= found.length ? -1 : found[i] & 0xFF;
     }
 
-    int state(int what) {
+    @Override
+    public int state(int what) {
         int[] told = {up ? 1 : 0, records.size(), begins, ends, hand.size(), written};
         if (what < 0 || what > 5 || !up && what != 0 && what != 5) {
             return -1;

@@ -14,7 +14,7 @@ public final class NewObjectTest {
     }
 
     private static void isUpWithNothing() {
-        BlockDesk desk = new BlockDesk(4);
+        Desk desk = new Desk(4);
         Due.stands("new", desk, 0, 0, 0, 0);
         Due.is("new: written", desk.state(5), 0);
         Due.bytes("new", desk, -1);
@@ -23,7 +23,7 @@ public final class NewObjectTest {
     }
 
     private static void journalHas(int blocks, int due) {
-        BlockDesk exact = new BlockDesk(blocks);
+        Desk exact = new Desk(blocks);
         int left = due * 500;
         while (left > 8004) {
             Due.record(exact, 1, 4000, 1);
@@ -41,8 +41,8 @@ public final class NewObjectTest {
     }
 
     private static void objectsShareNothing() {
-        BlockDesk one = new BlockDesk(2);
-        BlockDesk other = new BlockDesk(2);
+        Desk one = new Desk(2);
+        Desk other = new Desk(2);
         Due.record(one, 1, 5, 1);
         Due.is("fill on one", one.fill(2, 6), true);
         Due.stands("other", other, 0, 0, 0, 0);

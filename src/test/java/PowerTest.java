@@ -8,7 +8,7 @@ public final class PowerTest {
             {false, false, false, true, false, true, false, true};
 
     public static void main(String[] args) {
-        int whole = doWork(new BlockDesk(8), new Model(8));
+        int whole = doWork(new Desk(8), new Model(8));
         Due.is("the work was done to its end", whole, SIZES.length);
         for (int n = 0; n <= 40; n++) {
             for (int startsCutOff = 0; startsCutOff <= 2; startsCutOff++) {
@@ -19,7 +19,7 @@ public final class PowerTest {
     }
 
     private static void powerGoesBefore(int n, int startsCutOff) {
-        BlockDesk desk = new BlockDesk(8);
+        Desk desk = new Desk(8);
         Model done = new Model(8);
         Due.is("charge(" + n + ")", desk.charge(n), true);
         int steps = doWork(desk, done);
@@ -39,7 +39,7 @@ public final class PowerTest {
     }
 
     /** The model does a step only when the desk has done it, so it holds what was done. */
-    private static int doWork(BlockDesk desk, Model done) {
+    private static int doWork(Desk desk, Model done) {
         for (int step = 0; step < SIZES.length; step++) {
             if (SIZES[step] > 0) {
                 Due.is("fill", desk.fill(step + 1, SIZES[step]), true);
@@ -57,7 +57,9 @@ public final class PowerTest {
         return SIZES.length;
     }
 
-    private static void same(String when, BlockDesk desk, Model done) {
+    /** The model has not written what was cut off, so the blocks written are left out. */
+    private static void same(String when, Desk asked, Model done) {
+        Reader desk = new Reader(asked);
         for (int what = 0; what <= 4; what++) {
             Due.is(when + ": state " + what, desk.state(what), done.state(what));
         }

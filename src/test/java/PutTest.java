@@ -10,7 +10,7 @@ public final class PutTest {
     }
 
     private static void highestByteFirst() {
-        BlockDesk desk = new BlockDesk(32);
+        Desk desk = new Desk(32);
         for (int n = 1; n <= 8; n++) {
             Due.is("put(.., " + n + ")", desk.put(0xF1E2D3C4B5A69788L, n), true);
             Due.is("in hand", desk.state(4), n);
@@ -31,7 +31,7 @@ public final class PutTest {
     }
 
     private static void comesBehindWhatIsInHand() {
-        BlockDesk desk = new BlockDesk(4);
+        Desk desk = new Desk(4);
         Due.is("fill(7, 2)", desk.fill(7, 2), true);
         Due.is("put(0x0102, 2)", desk.put(0x0102L, 2), true);
         Due.is("put(3, 1)", desk.put(3L, 1), true);
@@ -41,7 +41,7 @@ public final class PutTest {
     }
 
     private static void refusesOtherCounts() {
-        BlockDesk desk = new BlockDesk(4);
+        Desk desk = new Desk(4);
         Due.is("put(5, 1)", desk.put(5L, 1), true);
         int[] wrong = {0, -1, -8, 9, 10, 16, 8000, 257, Integer.MIN_VALUE, Integer.MAX_VALUE};
         for (int n : wrong) {
@@ -53,7 +53,7 @@ public final class PutTest {
     }
 
     private static void refusesMoreThan8000() {
-        BlockDesk desk = new BlockDesk(32);
+        Desk desk = new Desk(32);
         Due.is("fill(1, 7993)", desk.fill(1, 7993), true);
         Due.is("put(2, 8)", desk.put(2L, 8), false);
         Due.is("in hand", desk.state(4), 7993);
@@ -68,7 +68,7 @@ public final class PutTest {
     }
 
     private static void refusedWhileDown() {
-        BlockDesk desk = new BlockDesk(4);
+        Desk desk = new Desk(4);
         Due.is("cut()", desk.cut(), true);
         Due.is("put(1, 1) down", desk.put(1L, 1), false);
         Due.is("start()", desk.start(), 1);

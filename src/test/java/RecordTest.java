@@ -14,7 +14,7 @@ public final class RecordTest {
     }
 
     private static void takesWhatIsInHand() {
-        BlockDesk desk = new BlockDesk(4);
+        Desk desk = new Desk(4);
         Due.record(desk, 1, 3, 1);
         Due.stands("one", desk, 1, 0, 7, 0);
         Due.record(desk, 0, 0, 1);
@@ -28,7 +28,7 @@ public final class RecordTest {
     }
 
     private static void writesTheBlocksItLiesIn() {
-        BlockDesk desk = new BlockDesk(32);
+        Desk desk = new Desk(32);
         int[] sizes = {495, 0, 492, 0, 496, 497, 0, 8000, 0};
         int[] ends = {499, 503, 999, 1003, 1503, 2004, 2008, 10012, 10016};
         int[] written = {1, 3, 4, 6, 8, 10, 11, 28, 29};
@@ -43,7 +43,7 @@ public final class RecordTest {
     }
 
     private static void isRefusedIfTheJournalIsFull() {
-        BlockDesk desk = new BlockDesk(2);
+        Desk desk = new Desk(2);
         Due.record(desk, 1, 400, 1);
         Due.is("fill(2, 593)", desk.fill(2, 593), true);
         Due.is("record() one place too long", desk.record(), 0);
@@ -52,7 +52,7 @@ public final class RecordTest {
         Due.snapshot(desk, 0, 0, 1);
         Due.allAlike("hand was kept", desk, -1, 593, 2);
 
-        BlockDesk exact = new BlockDesk(2);
+        Desk exact = new Desk(2);
         Due.record(exact, 1, 400, 1);
         Due.record(exact, 2, 592, 1);
         Due.stands("exact", exact, 2, 0, 1000, 0);
@@ -62,19 +62,19 @@ public final class RecordTest {
 
     private static void isRefusedIfAnEmptyOneDoesNotFit() {
         for (int over = 1; over <= 3; over++) {
-            BlockDesk desk = new BlockDesk(2);
+            Desk desk = new Desk(2);
             Due.record(desk, 1, 992 + over, 1);
             Due.record(desk, 0, 0, 0);
             Due.is("records", desk.state(1), 1);
         }
-        BlockDesk desk = new BlockDesk(2);
+        Desk desk = new Desk(2);
         Due.record(desk, 1, 992, 1);
         Due.record(desk, 0, 0, 1);
         Due.stands("just so", desk, 2, 0, 1000, 0);
     }
 
     private static void fullIsCountedFromWhereTheJournalBegins() {
-        BlockDesk desk = new BlockDesk(2);
+        Desk desk = new Desk(2);
         Due.record(desk, 1, 1, 1);
         Due.snapshot(desk, 0, 0, 1);
         Due.record(desk, 2, 996, 1);
@@ -88,7 +88,7 @@ public final class RecordTest {
 
     private static void thePowerGoesBeforeEachOfItsBlocks() {
         for (int n = 0; n <= 5; n++) {
-            BlockDesk desk = new BlockDesk(8);
+            Desk desk = new Desk(8);
             Due.record(desk, 1, 490, 1);
             Due.snapshot(desk, 8, 3, 1);
             Due.record(desk, 2, 490, 1);
@@ -112,7 +112,7 @@ public final class RecordTest {
     }
 
     private static void aFullJournalSparesTheCharge() {
-        BlockDesk desk = new BlockDesk(2);
+        Desk desk = new Desk(2);
         Due.is("fill(1, 997)", desk.fill(1, 997), true);
         Due.is("charge(0)", desk.charge(0), true);
         Due.is("record() full", desk.record(), 0);
@@ -121,7 +121,7 @@ public final class RecordTest {
     }
 
     private static void refusedWhileDown() {
-        BlockDesk desk = new BlockDesk(4);
+        Desk desk = new Desk(4);
         Due.record(desk, 1, 3, 1);
         Due.is("cut()", desk.cut(), true);
         Due.is("record() down", desk.record(), 0);
@@ -131,7 +131,7 @@ public final class RecordTest {
     }
 
     private static void manyEmptyRecords() {
-        BlockDesk desk = new BlockDesk(2);
+        Desk desk = new Desk(2);
         for (int i = 0; i < 250; i++) {
             Due.record(desk, 0, 0, 1);
         }

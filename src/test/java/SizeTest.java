@@ -1,7 +1,7 @@
 /** Promise 9: size. */
 public final class SizeTest {
     public static void main(String[] args) {
-        BlockDesk desk = new BlockDesk(32);
+        Desk desk = new Desk(32);
         Due.is("size(-1) at first", desk.size(-1), 0);
         Due.is("size(0) at first", desk.size(0), -1);
         int[] sizes = {0, 1, 8000, 0, 499, 500};

@@ -13,7 +13,7 @@ public final class SnapshotTest {
     }
 
     private static void takesThePlaceOfAll() {
-        BlockDesk desk = new BlockDesk(4);
+        Desk desk = new Desk(4);
         Due.snapshot(desk, 1, 7, 1);
         Due.record(desk, 2, 5, 1);
         Due.record(desk, 3, 5, 1);
@@ -29,7 +29,7 @@ public final class SnapshotTest {
     private static void writesItsBlocksAndOneMore() {
         int[] sizes = {0, 1, 499, 500, 501, 1000, 1001, 7500, 7501, 8000};
         int[] blocks = {1, 2, 2, 2, 3, 3, 4, 16, 17, 17};
-        BlockDesk desk = new BlockDesk(4);
+        Desk desk = new Desk(4);
         int written = 0;
         for (int i = 0; i < sizes.length; i++) {
             Due.snapshot(desk, i, sizes[i], 1);
@@ -43,7 +43,7 @@ public final class SnapshotTest {
         int[] sizes = {0, 495, 496, 497, 995, 996, 997};
         int[] begins = {500, 500, 500, 1000, 1000, 1000, 1500};
         for (int i = 0; i < sizes.length; i++) {
-            BlockDesk desk = new BlockDesk(4);
+            Desk desk = new Desk(4);
             Due.record(desk, 1, sizes[i], 1);
             Due.snapshot(desk, 2, 9, 1);
             Due.stands("behind " + sizes[i], desk, 0, begins[i], begins[i], 0);
@@ -54,7 +54,7 @@ public final class SnapshotTest {
     }
 
     private static void theJournalStaysWithoutRecords() {
-        BlockDesk desk = new BlockDesk(4);
+        Desk desk = new Desk(4);
         Due.snapshot(desk, 1, 600, 1);
         Due.snapshot(desk, 1, 600, 1);
         Due.stands("at first", desk, 0, 0, 0, 0);
@@ -65,7 +65,7 @@ public final class SnapshotTest {
     }
 
     private static void aRecordCutOffIsNoRecord() {
-        BlockDesk desk = new BlockDesk(8);
+        Desk desk = new Desk(8);
         Due.is("charge(2)", desk.charge(2), true);
         Due.record(desk, 1, 1500, 2);
         Due.is("start()", desk.start(), 1);
@@ -75,7 +75,7 @@ public final class SnapshotTest {
 
     private static void thePowerGoesBeforeEachOfItsBlocks() {
         for (int n = 0; n <= 5; n++) {
-            BlockDesk desk = new BlockDesk(4);
+            Desk desk = new Desk(4);
             Due.snapshot(desk, 1, 7, 1);
             Due.record(desk, 2, 5, 1);
             int before = desk.state(5);
@@ -93,7 +93,7 @@ public final class SnapshotTest {
                 Due.allAlike("done", desk, -1, 1001, 3);
             }
         }
-        BlockDesk empty = new BlockDesk(4);
+        Desk empty = new Desk(4);
         Due.is("charge(0)", empty.charge(0), true);
         Due.is("snapshot() of none", empty.snapshot(), 2);
         Due.is("start()", empty.start(), 1);
@@ -102,7 +102,7 @@ public final class SnapshotTest {
     }
 
     private static void refusedWhileDown() {
-        BlockDesk desk = new BlockDesk(4);
+        Desk desk = new Desk(4);
         Due.snapshot(desk, 1, 7, 1);
         Due.record(desk, 2, 5, 1);
         Due.is("cut()", desk.cut(), true);
@@ -114,7 +114,7 @@ public final class SnapshotTest {
     }
 
     private static void handAndSnapshotAreTwoThings() {
-        BlockDesk desk = new BlockDesk(4);
+        Desk desk = new Desk(4);
         Due.snapshot(desk, 1, 8, 1);
         Due.is("fill(2, 8)", desk.fill(2, 8), true);
         Due.allAlike("with a hand", desk, -1, 8, 1);

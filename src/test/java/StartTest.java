@@ -8,7 +8,7 @@ public final class StartTest {
     }
 
     private static void writesOneBlock() {
-        BlockDesk desk = new BlockDesk(4);
+        Desk desk = new Desk(4);
         Due.record(desk, 1, 10, 1);
         Due.is("cut()", desk.cut(), true);
         Due.is("start()", desk.start(), 1);
@@ -23,7 +23,7 @@ public final class StartTest {
     }
 
     private static void refusedWhileUp() {
-        BlockDesk desk = new BlockDesk(4);
+        Desk desk = new Desk(4);
         Due.is("fill(1, 4)", desk.fill(1, 4), true);
         Due.is("charge(0)", desk.charge(0), true);
         Due.is("start() up", desk.start(), 0);
@@ -33,7 +33,7 @@ public final class StartTest {
     }
 
     private static void thePowerGoesBefore() {
-        BlockDesk desk = new BlockDesk(4);
+        Desk desk = new Desk(4);
         Due.snapshot(desk, 1, 7, 1);
         Due.record(desk, 2, 5, 1);
         Due.is("cut()", desk.cut(), true);

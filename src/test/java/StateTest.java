@@ -1,7 +1,7 @@
 /** Promise 11: state. */
 public final class StateTest {
     public static void main(String[] args) {
-        BlockDesk desk = new BlockDesk(4);
+        Desk desk = new Desk(4);
         Due.record(desk, 1, 700, 1);
         Due.snapshot(desk, 1, 3, 1);
         Due.record(desk, 1, 10, 1);
@@ -23,7 +23,7 @@ public final class StateTest {
         Due.end();
     }
 
-    private static void noOtherWhat(BlockDesk desk) {
+    private static void noOtherWhat(Desk desk) {
         int[] others = {-1, -2, 6, 7, 100, 256, 261, Integer.MIN_VALUE, Integer.MAX_VALUE};
         for (int what : others) {
             Due.is("state(" + what + ")", desk.state(what), -1);
