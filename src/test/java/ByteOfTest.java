@@ -5,6 +5,8 @@ public final class ByteOfTest {
     public static void main(String[] args) {
         tellsEachByte();
         tellsNoneBeyond();
+        tellsNoneOfTheEmpty();
+        tellsTheLastOfTheMost();
         tellsNoneWhileDown();
         Due.end();
     }
@@ -62,6 +64,42 @@ public final class ByteOfTest {
         Due.is("byteOf(-1, 4)", desk.byteOf(-1, 4), 255);
         Due.is("byteOf(1, 4)", desk.byteOf(1, 4), 253);
         Due.is("byteOf(1, 0)", desk.byteOf(1, 0), 253);
+    }
+
+    private static void tellsNoneOfTheEmpty() {
+        Desk desk = new Desk(4);
+        Due.record(desk, 1, 3, 1);
+        Due.is("record() of none", desk.record(), 1);
+        Due.record(desk, 2, 3, 1);
+        for (int i = -2; i <= 8; i++) {
+            Due.is("byteOf(1, " + i + ")", desk.byteOf(1, i), -1);
+            Due.is("byteOf(-1, " + i + ")", desk.byteOf(-1, i), -1);
+            Due.is("byteOf(0, " + i + ")", desk.byteOf(0, i), i >= 0 && i < 3 ? 1 : -1);
+            Due.is("byteOf(2, " + i + ")", desk.byteOf(2, i), i >= 0 && i < 3 ? 2 : -1);
+        }
+        int[] ends = {Integer.MIN_VALUE, Integer.MAX_VALUE};
+        for (int k : ends) {
+            for (int i : ends) {
+                Due.is("byteOf(" + k + ", " + i + ")", desk.byteOf(k, i), -1);
+            }
+        }
+    }
+
+    private static void tellsTheLastOfTheMost() {
+        Desk desk = new Desk(32);
+        Due.is("fill(1, 7999)", desk.fill(1, 7999), true);
+        Due.is("put(254, 1)", desk.put(254L, 1), true);
+        Due.is("snapshot()", desk.snapshot(), 1);
+        Due.is("fill(2, 7999)", desk.fill(2, 7999), true);
+        Due.is("put(253, 1)", desk.put(253L, 1), true);
+        Due.is("record()", desk.record(), 1);
+        for (int k = -1; k <= 0; k++) {
+            Due.is("byteOf(" + k + ", -1)", desk.byteOf(k, -1), -1);
+            Due.is("byteOf(" + k + ", 0)", desk.byteOf(k, 0), k + 2);
+            Due.is("byteOf(" + k + ", 7998)", desk.byteOf(k, 7998), k + 2);
+            Due.is("byteOf(" + k + ", 7999)", desk.byteOf(k, 7999), 253 - k);
+            Due.is("byteOf(" + k + ", 8000)", desk.byteOf(k, 8000), -1);
+        }
     }
 
     private static void tellsNoneWhileDown() {

@@ -5,14 +5,16 @@ public final class FillTest {
         comesBehindWhatIsInHand();
         refusesOtherCounts();
         refusesMoreThan8000();
+        upToTheLastByte();
         refusedWhileDown();
         Due.end();
     }
 
     private static void takesTheLowestEightBits() {
         Desk desk = new Desk(4);
-        int[] values = {0, 1, 127, 128, 255, 256, 0x1234, -1, -128, -256, Integer.MIN_VALUE};
-        int[] due = {0, 1, 127, 128, 255, 0, 0x34, 255, 128, 0, 0};
+        int[] values = {0, 1, 127, 128, 255, 256, 0x1234, -1, -128, -129, -256,
+            Integer.MIN_VALUE, Integer.MAX_VALUE};
+        int[] due = {0, 1, 127, 128, 255, 0, 0x34, 255, 128, 127, 0, 0, 255};
         for (int value : values) {
             Due.is("fill(" + value + ", 1)", desk.fill(value, 1), true);
         }
@@ -54,6 +56,25 @@ public final class FillTest {
         Due.is("fill(4, 1001)", desk.fill(4, 1001), false);
         Due.is("fill(4, 1000)", desk.fill(4, 1000), true);
         Due.is("in hand", desk.state(4), 8000);
+    }
+
+    private static void upToTheLastByte() {
+        int[] hands = {1, 2, 499, 500, 4000, 7998, 7999};
+        for (int hand : hands) {
+            Desk desk = new Desk(32);
+            Due.is("fill", desk.fill(1, hand), true);
+            Due.is("fill beyond " + hand, desk.fill(2, 8001 - hand), false);
+            Due.is("fill of 8000 beyond " + hand, desk.fill(2, 8000), false);
+            Due.is("in hand", desk.state(4), hand);
+            Due.is("fill up from " + hand, desk.fill(3, 8000 - hand), true);
+            Due.is("fill beyond all", desk.fill(4, 1), false);
+            Due.is("in hand", desk.state(4), 8000);
+            Due.is("record()", desk.record(), 1);
+            Due.is("first", desk.byteOf(0, 0), 1);
+            Due.is("last of the first", desk.byteOf(0, hand - 1), 1);
+            Due.is("first of the others", desk.byteOf(0, hand), 3);
+            Due.is("last", desk.byteOf(0, 7999), 3);
+        }
     }
 
     private static void refusedWhileDown() {

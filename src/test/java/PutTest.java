@@ -1,10 +1,14 @@
+import java.util.Arrays;
+
 /** Promise 2: put. */
 public final class PutTest {
     public static void main(String[] args) {
         highestByteFirst();
         comesBehindWhatIsInHand();
         refusesOtherCounts();
+        takesTheLeastAndTheGreatestLong();
         refusesMoreThan8000();
+        eachCountUpToTheLastByte();
         refusedWhileDown();
         Due.end();
     }
@@ -52,6 +56,25 @@ public final class PutTest {
         Due.bytes("refused puts", desk, 0, 5);
     }
 
+    private static void takesTheLeastAndTheGreatestLong() {
+        for (int n = 1; n <= 8; n++) {
+            Desk desk = new Desk(4);
+            Due.is("put(least, " + n + ")", desk.put(Long.MIN_VALUE, n), true);
+            Due.is("record()", desk.record(), 1);
+            Due.is("put(greatest, " + n + ")", desk.put(Long.MAX_VALUE, n), true);
+            Due.is("record()", desk.record(), 1);
+            int[] least = new int[n];
+            int[] greatest = new int[n];
+            Arrays.fill(greatest, 255);
+            if (n == 8) {
+                least[0] = 128;
+                greatest[0] = 127;
+            }
+            Due.bytes("least", desk, 0, least);
+            Due.bytes("greatest", desk, 1, greatest);
+        }
+    }
+
     private static void refusesMoreThan8000() {
         Desk desk = new Desk(32);
         Due.is("fill(1, 7993)", desk.fill(1, 7993), true);
@@ -65,6 +88,26 @@ public final class PutTest {
         Due.is("first", desk.byteOf(0, 0), 1);
         Due.is("last", desk.byteOf(0, 7999), 2);
         Due.is("put(2, 8)", desk.put(2L, 8), true);
+    }
+
+    private static void eachCountUpToTheLastByte() {
+        for (int n = 1; n <= 8; n++) {
+            Desk fits = new Desk(32);
+            Due.is("fill", fits.fill(1, 8000 - n), true);
+            Due.is("put to the last byte, " + n, fits.put(0x0202020202020202L, n), true);
+            Due.is("in hand", fits.state(4), 8000);
+            Due.is("record()", fits.record(), 1);
+            Due.is("byte ahead", fits.byteOf(0, 7999 - n), 1);
+            Due.is("first byte", fits.byteOf(0, 8000 - n), 2);
+            Due.is("last byte", fits.byteOf(0, 7999), 2);
+
+            Desk beyond = new Desk(32);
+            Due.is("fill", beyond.fill(1, 8001 - n), true);
+            Due.is("put beyond the last byte, " + n, beyond.put(-1L, n), false);
+            Due.is("in hand", beyond.state(4), 8001 - n);
+            Due.is("record()", beyond.record(), 1);
+            Due.allAlike("none of them came", beyond, 0, 8001 - n, 1);
+        }
     }
 
     private static void refusedWhileDown() {
