@@ -1,51 +1,49 @@
 import java.util.Random;
+import java.util.function.IntConsumer;
 
-/** Far beyond 512 calls, where answers are free, and with any arguments, no call throws. */
+/** With any arguments, in any state that its 512 calls can bring about, no call throws. */
 public final class NeverThrowsTest {
-    private static final int CALLS = 1_000_000;
+    private static final int OBJECTS = 8000;
+    private static final int CALLS = 512;
 
     public static void main(String[] args) {
-        for (int seed = 0; seed < 4; seed++) {
-            BlockDesk desk = new BlockDesk(seed * 11 - 1);
-            Due.is("seed " + seed + " threw at call", firstThrowingCall(desk, seed), -1);
+        for (int seed = 0; seed < OBJECTS; seed++) {
+            anyCalls(seed);
         }
-        Due.is("the journal's places wrapped, threw at call", wrapThePlaces(), -1);
-        Due.is("a journal of empty records, threw at call", emptyRecords(), -1);
+        int[] blocks = {2, 3, 17, 32};
+        for (int n : blocks) {
+            fullJournals(n);
+            emptyRecords(n);
+        }
         Due.end();
     }
 
-    private static int firstThrowingCall(BlockDesk desk, int seed) {
+    private static void anyCalls(int seed) {
         Random random = new Random(seed);
-        for (int call = 0; call < CALLS; call++) {
-            try {
-                anyCall(desk, random);
-            } catch (Throwable thrown) {
-                System.out.println(thrown);
-                return call;
-            }
-        }
-        return -1;
+        Desk desk = new Desk(seed % 40 - 3);
+        noneThrows("any calls of seed " + seed, CALLS, call -> anyCall(desk, random));
     }
 
-    private static void anyCall(BlockDesk desk, Random random) {
+    private static void anyCall(Desk desk, Random random) {
         int a = any(random);
         int b = any(random);
-        switch (random.nextInt(10)) {
+        switch (random.nextInt(12)) {
             case 0 -> desk.put(random.nextLong(), a);
-            case 1 -> desk.fill(a, b);
-            case 2 -> desk.record();
-            case 3 -> {
-                if (random.nextInt(50) == 0) {
+            case 1 -> desk.put(random.nextLong(), 8);
+            case 2 -> desk.fill(a, b);
+            case 3, 4 -> desk.record();
+            case 5 -> {
+                if (random.nextInt(10) == 0) {
                     desk.snapshot();
                 }
             }
-            case 4 -> desk.size(a);
-            case 5 -> desk.byteOf(a, b);
-            case 6 -> desk.state(a);
-            case 7 -> desk.start();
-            case 8 -> desk.charge(a);
+            case 6 -> desk.size(a);
+            case 7 -> desk.byteOf(a, b);
+            case 8 -> desk.state(a);
+            case 9 -> desk.start();
+            case 10 -> desk.charge(a);
             default -> {
-                if (random.nextInt(50) == 0) {
+                if (random.nextInt(10) == 0) {
                     desk.cut();
                 }
             }
@@ -61,37 +59,38 @@ public final class NeverThrowsTest {
         };
     }
 
-    private static int wrapThePlaces() {
-        BlockDesk desk = new BlockDesk(32);
-        for (int round = 0; round < 300_000; round++) {
-            try {
-                desk.fill(round, 8000);
-                desk.record();
-                desk.fill(round, 7990);
-                desk.record();
-                desk.byteOf(1, 7989);
-                desk.state(3);
-                desk.snapshot();
-            } catch (Throwable thrown) {
-                System.out.println(thrown);
-                return round;
-            }
-        }
-        return -1;
+    private static void fullJournals(int blocks) {
+        Desk desk = new Desk(blocks);
+        noneThrows("full journals of " + blocks, CALLS / 8, round -> {
+            desk.fill(round, blocks > 17 ? 8000 : 500 * (blocks - 1));
+            desk.record();
+            desk.fill(round, 492);
+            desk.record();
+            desk.record();
+            desk.byteOf(1, 491);
+            desk.state(3);
+            desk.snapshot();
+        });
     }
 
-    private static int emptyRecords() {
-        BlockDesk desk = new BlockDesk(32);
-        for (int round = 0; round < 5000; round++) {
+    private static void emptyRecords(int blocks) {
+        Desk desk = new Desk(blocks);
+        noneThrows("empty records in " + blocks, CALLS / 2, round -> {
+            desk.record();
+            desk.byteOf(round, 0);
+        });
+    }
+
+    private static void noneThrows(String what, int rounds, IntConsumer made) {
+        int thrownIn = -1;
+        for (int round = 0; round < rounds && thrownIn < 0; round++) {
             try {
-                desk.record();
-                desk.size(round);
-                desk.byteOf(round, 0);
+                made.accept(round);
             } catch (Throwable thrown) {
                 System.out.println(thrown);
-                return round;
+                thrownIn = round;
             }
         }
-        return -1;
+        Due.is(what + ": threw in round", thrownIn, -1);
     }
 }
